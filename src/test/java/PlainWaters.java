@@ -47,6 +47,13 @@ final class PlainWaters {
         }
     }
 
+    static PlainWaters of(String sea) {
+        PlainWaters x = new PlainWaters();
+        x.tape.append(sea);
+        x.sea(sea.length());
+        return x;
+    }
+
     int feed(int... numbers) {
         if (tape.length() + 20 > 500) {
             return NONE;

@@ -1,1 +1,179 @@
-final class RuleTests { }
+import java.io.IOException;
+import java.lang.management.ManagementFactory;
+import java.lang.reflect.Field;
+import java.lang.reflect.Method;
+import java.lang.reflect.Modifier;
+import java.nio.file.Files;
+import java.nio.file.Path;
+import java.util.Arrays;
+import java.util.List;
+import java.util.TreeSet;
+import java.util.regex.Matcher;
+import java.util.regex.Pattern;
+
+/** The face, the rules of LANGUAGE.md that a program can look at, and how much room a run takes. */
+final class RuleTests {
+    private static final String FACE = "all(int) count(int) days(int,int,int) divided(int,int) ends() fault() feed(int,int,int,int,int) "
+        + "fewest() figures(long,int,boolean) find(int,int) fits(int) fleets(int) forget() haul() image() just(int,int) lower(int,boolean) "
+        + "mesh(int) most(int) net(int,int) nets(long) next(int,long) parts(int,int,boolean) place(int,long) pond(int) prime(int) "
+        + "primes(int,int) restore() round(int) sea(int) see(long) shoal(int,int) some(int) split(int,int) sums(long,int,int) undo() "
+        + "waters(long,long) wish(long,boolean) years(int)";
+
+    private RuleTests() {
+    }
+
+    private static void hold(String what, boolean held) {
+        if (!held) {
+            throw new AssertionError(what);
+        }
+    }
+
+    private static String code() {
+        try {
+            return Files.readString(Path.of(Tests.source));
+        } catch (IOException e) {
+            throw new AssertionError(e);
+        }
+    }
+
+    private static String codeWithoutComments() {
+        return code().replaceAll("(?s)/\\*.*?\\*/", "").replaceAll("//[^\n]*", "");
+    }
+
+    static void theFace() {
+        TreeSet<String> all = new TreeSet<>();
+        for (Method m : MeshWaters.class.getDeclaredMethods()) {
+            hold("public or private: " + m, Modifier.isPublic(m.getModifiers()) || Modifier.isPrivate(m.getModifiers()));
+            if (Modifier.isPublic(m.getModifiers())) {
+                StringBuilder parameters = new StringBuilder();
+                for (Class<?> p : m.getParameterTypes()) {
+                    parameters.append(parameters.length() > 0 ? "," : "").append(p);
+                }
+                all.add(m.getName() + "(" + parameters + ")");
+            }
+        }
+        hold("the face: " + all, all.equals(new TreeSet<>(Arrays.asList(FACE.split(" ")))));
+        hold("final", Modifier.isFinal(MeshWaters.class.getModifiers()) && Modifier.isPublic(MeshWaters.class.getModifiers()));
+        for (Field f : MeshWaters.class.getDeclaredFields()) {
+            hold("private: " + f, Modifier.isPrivate(f.getModifiers()) || f.getName().equals("NONE"));
+        }
+    }
+
+    static void classesInside() {
+        Class<?>[] inside = MeshWaters.class.getDeclaredClasses();
+        hold("how many classes", inside.length < 12);
+        TreeSet<String> face = new TreeSet<>();
+        for (String method : FACE.split(" ")) {
+            face.add(method.substring(0, method.indexOf('(')));
+        }
+        for (Class<?> c : inside) {
+            hold("static and not public: " + c, Modifier.isStatic(c.getModifiers()) && !Modifier.isPublic(c.getModifiers()));
+            for (Method m : c.getDeclaredMethods()) {
+                hold("a name of the face: " + m, !face.contains(m.getName()));
+            }
+        }
+        for (Method m : MeshWaters.class.getDeclaredMethods()) {
+            hold("a private name of the face: " + m, Modifier.isPublic(m.getModifiers()) || !face.contains(m.getName()));
+        }
+    }
+
+    static void fields() {
+        Class<?>[] all = Arrays.copyOf(MeshWaters.class.getDeclaredClasses(), MeshWaters.class.getDeclaredClasses().length + 1);
+        all[all.length - 1] = MeshWaters.class;
+        for (Class<?> c : all) {
+            int own = 0;
+            for (Field f : c.getDeclaredFields()) {
+                boolean isStatic = Modifier.isStatic(f.getModifiers());
+                hold("static and not final: " + f, !isStatic || Modifier.isFinal(f.getModifiers()) && f.getType().isPrimitive());
+                own += isStatic ? 0 : 1;
+            }
+            hold("fields of " + c, own <= 20);
+        }
+    }
+
+    static void methods() {
+        String[] lines = codeWithoutComments().split("\n");
+        Pattern head = Pattern.compile("^( +)(?:public |private |static |final )*[\\w\\[\\]]+ \\w+\\(([^)]*)\\)[^;]*\\{$");
+        int begun = -1;
+        String indent = "";
+        for (int i = 0; i < lines.length; i++) {
+            Matcher m = head.matcher(lines[i]);
+            if (begun < 0 && m.matches()) {
+                begun = i;
+                indent = m.group(1);
+                hold("parameters: " + lines[i], m.group(2).split(",").length <= 7);
+            } else if (begun >= 0 && lines[i].equals(indent + "}")) {
+                hold("lines: " + lines[begun], i - begun <= 60);
+                begun = -1;
+            }
+        }
+    }
+
+    static void words() {
+        String code = codeWithoutComments();
+        hold("signs 1 to 127", code().chars().allMatch(c -> c >= 1 && c <= 127));
+        for (String word : List.of("try", "catch", "finally", "synchronized", "assert", "instanceof", "enum", "record", "native", "var",
+            "System", "Thread", "Object", "hashCode", "equals", "toString", "Exact", "Random", "package", "yield", "volatile", "double", "float")) {
+            hold(word, !Pattern.compile("\\b" + word + "\\b").matcher(code).find());
+        }
+        for (String sign : List.of("->", "::", "@", "...")) {
+            hold(sign, !code.contains(sign));
+        }
+        hold("one import", code.split("\nimport |^import ", -1).length == 2 && code.startsWith("import java.util.NoSuchElementException;"));
+        Matcher library = Pattern.compile("\\b(Math|Long|Integer|String)\\.(\\w+)").matcher(code);
+        while (library.find()) {
+            hold(library.group(), List.of("max", "min", "bitCount").contains(library.group(2)));
+        }
+        hold("texts joined by +", !Pattern.compile("\"\\s*\\+|\\+\\s*\"").matcher(code).find());
+    }
+
+    /** Nothing but what the constructor makes may be kept or made: all of a run lives in one room. */
+    static void room() {
+        com.sun.management.ThreadMXBean bean = (com.sun.management.ThreadMXBean) ManagementFactory.getThreadMXBean();
+        long id = Thread.currentThread().getId();
+        new MeshWaters();
+        long ahead = bean.getThreadAllocatedBytes(id);
+        MeshWaters x = new MeshWaters();
+        long made = bean.getThreadAllocatedBytes(id) - ahead;
+        hold("bytes of a new object: " + made, made < 120_000);
+        dearCalls(x);
+        ahead = bean.getThreadAllocatedBytes(id);
+        for (int i = 0; i < 20; i++) {
+            dearCalls(x);
+        }
+        made = bean.getThreadAllocatedBytes(id) - ahead;
+        hold("bytes of dear calls: " + made, made < 20_000);
+    }
+
+    private static void dearCalls(MeshWaters x) {
+        x.feed(0x6d657368, 0x20372033, 0x3b707761, 0x7465723b, 0x20202020);
+        x.sea(9);
+        x.lower(0, true);
+        x.image();
+        x.years(200);
+        x.some(1);
+        x.just(1, 1);
+        x.most(1);
+        x.place(1, 3);
+        x.wish(3, true);
+        x.see(3);
+        x.fewest();
+        x.mesh(999);
+        x.find(60, 0);
+        x.parts(999999937, 0, false);
+        x.divided(735134400, 1);
+        x.primes(999990000, 999992000);
+        x.prime(999990000);
+        x.shoal(7, 100000);
+        x.sums(1_000_000_000_000_000L, 50, 7);
+        x.figures(1_000_000_000_000_000L, 7, true);
+        x.split(9, 0);
+        x.round(0);
+        x.ends();
+        x.fits(0);
+        x.fleets(0);
+        x.days(1, 300, -1);
+        x.restore();
+        x.undo();
+    }
+}
