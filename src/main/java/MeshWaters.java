@@ -423,8 +423,10 @@ public final class MeshWaters {
             throw new NoSuchElementException();
         }
         long many = 0;
-        for (int figure = i + 1; figure <= 9; figure += k) {
-            many += Licences.beginning(scene.high, figure) - Licences.beginning(scene.low - 1, figure);
+        for (int figure = 1; figure <= 9; figure++) {
+            if ((figure - 1) % k == i) {
+                many += Licences.beginning(scene.high, figure) - Licences.beginning(scene.low - 1, figure);
+            }
         }
         return many;
     }
@@ -569,6 +571,9 @@ public final class MeshWaters {
     }
 
     private void strikeMultiples(long part, int a, int b) {
+        if (part < 2) {
+            return;
+        }
         long first = Math.max(part * part, a + remainder(part - remainder(a, part), part));
         for (long many = first; many <= b; many += part) {
             int i = (int) (many - a);
@@ -1172,31 +1177,45 @@ public final class MeshWaters {
                 return;
             }
             long apart = remainder(remainder(rest - oldRest, mesh) + mesh, mesh);
-            // A MESH beyond all numbers leaves one number at most, and would outgrow a long in time.
+            long common = commonPart(mesh, remainder(oldMesh, mesh));
             if (oldMesh > NUMBER_MOST) {
+                // A MESH beyond all numbers leaves one number at most, and would outgrow a long in time.
                 meshes[set] = apart == 0 ? oldMesh : 0;
-                return;
+            } else if (remainder(apart, common) == 0) {
+                long steps = quotient(mesh, common);
+                long many = remainder(quotient(apart, common) * inverse(quotient(oldMesh, common), steps), steps);
+                meshes[set] = oldMesh * steps;
+                rests[set] = oldRest + oldMesh * many;
             }
-            long common = mesh;
-            long left = oldMesh % mesh;
+        }
+
+        private static long commonPart(long a, long b) {
+            long common = a;
+            long left = b;
+            for (int i = 0; i < 64 && left > 0; i++) {
+                long next = common % left;
+                common = left;
+                left = next;
+            }
+            return common;
+        }
+
+        /** By what a number without a part in common with a mesh is to be taken so that 1 is left by the mesh. */
+        private static long inverse(long number, long mesh) {
+            long value = mesh;
+            long left = remainder(number, mesh);
             long factor = 0;
             long nextFactor = 1;
             for (int i = 0; i < 64 && left > 0; i++) {
-                long times = common / left;
-                long newLeft = common - times * left;
+                long times = value / left;
+                long newLeft = value - times * left;
                 long newFactor = factor - times * nextFactor;
-                common = left;
+                value = left;
                 left = newLeft;
                 factor = nextFactor;
                 nextFactor = newFactor;
             }
-            if (common < 1 || apart % common != 0) {
-                return;
-            }
-            long steps = mesh / common;
-            long many = remainder(remainder(factor * (apart / common), steps) + steps, steps);
-            meshes[set] = oldMesh * steps;
-            rests[set] = oldRest + oldMesh * many;
+            return factor < 0 ? factor + mesh : factor;
         }
 
         /** The least number from low on that ALL of a SET catch, be it in THE WATERS or not; NONE. */
@@ -1451,10 +1470,10 @@ public final class MeshWaters {
                     put(rows[top], code, number, sea.places, taken);
                     top++;
                 } else if (code == DO_NOT && top > 0) {
-                    join(DO_NOT, rows[top - 1], rows[top - 1]);
+                    join(DO_NOT, rows[top - 1], rows[top - 1], sea.places);
                 } else if (code > DO_NOT && top > 1) {
                     top--;
-                    join(code, rows[top - 1], rows[top]);
+                    join(code, rows[top - 1], rows[top], sea.places);
                 }
             }
             long grown = 0;
@@ -1509,8 +1528,8 @@ public final class MeshWaters {
             }
         }
 
-        private static void join(int code, int[] left, int[] right) {
-            for (int place = 0; place < left.length && place < right.length; place++) {
+        private static void join(int code, int[] left, int[] right, int places) {
+            for (int place = 0; place < places && place < left.length && place < right.length; place++) {
                 left[place] = joined(code, left[place], right[place]);
             }
         }

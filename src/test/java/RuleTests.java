@@ -1,12 +1,14 @@
 import java.io.IOException;
 import java.lang.management.ManagementFactory;
 import java.lang.reflect.Field;
+import java.lang.reflect.InvocationTargetException;
 import java.lang.reflect.Method;
 import java.lang.reflect.Modifier;
 import java.nio.file.Files;
 import java.nio.file.Path;
 import java.util.Arrays;
 import java.util.List;
+import java.util.Random;
 import java.util.TreeSet;
 import java.util.regex.Matcher;
 import java.util.regex.Pattern;
@@ -125,6 +127,48 @@ final class RuleTests {
             hold(library.group(), List.of("max", "min", "bitCount").contains(library.group(2)));
         }
         hold("texts joined by +", !Pattern.compile("\"\\s*\\+|\\+\\s*\"").matcher(code).find());
+    }
+
+    /** Whatever is asked: an answer, or one of the exceptions that the document names. */
+    static void noOtherException() {
+        long[] edges = {Long.MIN_VALUE, Integer.MIN_VALUE, -1, 0, 1, 2, 3, 5, 7, 8, 9, 12, 13, 14, 20, 31, 40, 50, 59, 60, 61, 127, 200, 255,
+            256, 300, 301, 500, 501, 999, 1000, 100000, 100001, 1000000000, 1000000001, Integer.MAX_VALUE, 1000000000000L, 1000000000001L,
+            1000000000000000L, 1000000000000001L, Long.MAX_VALUE - 1, Long.MAX_VALUE};
+        Random chance = new Random(12);
+        for (int run = 0; run < 300; run++) {
+            MeshWaters x = new MeshWaters();
+            String text = new TextMaker(run).text();
+            Check.sea(x, text);
+            for (int call = 0; call < 500; call++) {
+                Method[] methods = MeshWaters.class.getMethods();
+                Method m = methods[chance.nextInt(methods.length)];
+                if (m.getDeclaringClass() == MeshWaters.class) {
+                    answers(x, m, edges, chance);
+                }
+            }
+        }
+    }
+
+    private static void answers(MeshWaters x, Method m, long[] edges, Random chance) {
+        Object[] arguments = new Object[m.getParameterCount()];
+        for (int i = 0; i < arguments.length; i++) {
+            long edge = edges[chance.nextInt(edges.length)];
+            Class<?> type = m.getParameterTypes()[i];
+            if (type == boolean.class) {
+                arguments[i] = chance.nextBoolean();
+            } else if (type == int.class) {
+                arguments[i] = (int) edge;
+            } else {
+                arguments[i] = edge;
+            }
+        }
+        try {
+            m.invoke(x, arguments);
+        } catch (InvocationTargetException e) {
+            hold(m + Arrays.toString(arguments) + " threw " + e.getCause(), Arrays.asList(m.getExceptionTypes()).contains(e.getCause().getClass()));
+        } catch (IllegalAccessException e) {
+            throw new AssertionError(e);
+        }
     }
 
     /** Nothing but what the constructor makes may be kept or made: all of a run lives in one room. */
