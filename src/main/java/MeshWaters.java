@@ -1427,6 +1427,13 @@ public final class MeshWaters {
 
         /** The least REST that with a MESH catches all WISHED and no UNWISHED ones; NONE. */
         int restThatServes(int mesh) {
+            for (int i = 0; i < wishes && i < LIST_MOST; i++) {
+                if (wished[i]) {
+                    // What catches all WISHED ones can only have the remainder of this one.
+                    int only = (int) remainder(wishNumbers[i], mesh);
+                    return serves(mesh, only) ? only : NONE;
+                }
+            }
             for (int rest = 0; rest < mesh; rest++) {
                 if (serves(mesh, rest)) {
                     return rest;
