@@ -777,7 +777,7 @@ public final class MeshWaters {
             faultAt = NONE;
             placesTold = false;
             pondTold = false;
-            step();
+            nextToken();
             for (int i = 0; i <= TAPE_MOST && fault == 0 && kind != TOKEN_END; i++) {
                 int line = lineKind();
                 switch (line) {
@@ -827,8 +827,7 @@ public final class MeshWaters {
             return c >= '0' && c <= '9';
         }
 
-        /** Goes on to the next TOKEN. */
-        private void step() {
+        private void nextToken() {
             while (at < end && isBlank(byteAt(at))) {
                 at++;
             }
@@ -874,7 +873,7 @@ public final class MeshWaters {
 
         private void expectSign(int c) {
             if (isSign(c)) {
-                step();
+                nextToken();
             } else {
                 fail(WRONG);
             }
@@ -882,7 +881,7 @@ public final class MeshWaters {
 
         private void expectWord(String word) {
             if (isWord(word)) {
-                step();
+                nextToken();
             } else {
                 fail(WRONG);
             }
@@ -896,7 +895,7 @@ public final class MeshWaters {
             }
             int read = number;
             if (fault == 0) {
-                step();
+                nextToken();
             }
             return read;
         }
@@ -927,7 +926,7 @@ public final class MeshWaters {
                 fail(TOO_MUCH);
                 return;
             }
-            step();
+            nextToken();
             int mesh = 7;
             int rest = 0;
             switch (line) {
@@ -964,7 +963,7 @@ public final class MeshWaters {
                 sea.cast(line, mesh, rest, 1, NUMBER_MOST);
                 return;
             }
-            step();
+            nextToken();
             int from = expectNumber(1, END_MOST);
             if (fault == 0) {
                 expectWord("to");
@@ -982,14 +981,14 @@ public final class MeshWaters {
                 fail(TOO_LATE);
             } else {
                 placesTold = true;
-                step();
+                nextToken();
                 sea.places = expectNumber(2, PLACES_MOST);
             }
         }
 
         private void readPond() {
             pondTold = true;
-            step();
+            nextToken();
             readPlace();
             for (int i = 0; i < TAPE_MOST && fault == 0 && kind == TOKEN_NUMBER; i++) {
                 readPlace();
@@ -1013,7 +1012,7 @@ public final class MeshWaters {
                 return;
             }
             sea.rule.told = true;
-            step();
+            nextToken();
             readExpr(1);
         }
 
@@ -1025,7 +1024,7 @@ public final class MeshWaters {
             }
             readAnd(depth);
             for (int i = 0; i < TAPE_MOST && fault == 0 && isWord("or"); i++) {
-                step();
+                nextToken();
                 readAnd(depth);
                 sea.rule.add(DO_OR, 0);
             }
@@ -1034,7 +1033,7 @@ public final class MeshWaters {
         private void readAnd(int depth) {
             readNot(depth);
             for (int i = 0; i < TAPE_MOST && fault == 0 && isWord("and"); i++) {
-                step();
+                nextToken();
                 readNot(depth);
                 sea.rule.add(DO_AND, 0);
             }
@@ -1044,7 +1043,7 @@ public final class MeshWaters {
             int nots = 0;
             while (nots < NOTS_MOST && isWord("not")) {
                 nots++;
-                step();
+                nextToken();
             }
             if (isWord("not") && nots == NOTS_MOST) {
                 fail(TOO_MUCH);
@@ -1060,7 +1059,7 @@ public final class MeshWaters {
             readSum(depth);
             if (fault == 0 && (isSign('<') || isSign('='))) {
                 int code = sign == '<' ? DO_LESS : DO_SAME;
-                step();
+                nextToken();
                 readSum(depth);
                 sea.rule.add(code, 0);
             }
@@ -1070,7 +1069,7 @@ public final class MeshWaters {
             readProduct(depth);
             for (int i = 0; i < TAPE_MOST && fault == 0 && (isSign('+') || isSign('-')); i++) {
                 int code = sign == '+' ? DO_ADD : DO_SUBTRACT;
-                step();
+                nextToken();
                 readProduct(depth);
                 sea.rule.add(code, 0);
             }
@@ -1080,7 +1079,7 @@ public final class MeshWaters {
             readPart(depth);
             for (int i = 0; i < TAPE_MOST && fault == 0 && (isSign('*') || isSign('/')); i++) {
                 int code = sign == '*' ? DO_MULTIPLY : DO_DIVIDE;
-                step();
+                nextToken();
                 readPart(depth);
                 sea.rule.add(code, 0);
             }
@@ -1092,7 +1091,7 @@ public final class MeshWaters {
             } else if (kind == TOKEN_WORD) {
                 readValue();
             } else if (isSign('(')) {
-                step();
+                nextToken();
                 readExpr(depth + 1);
                 if (fault == 0) {
                     expectSign(')');
@@ -1109,7 +1108,7 @@ public final class MeshWaters {
                 return;
             }
             sea.rule.add(code, 0);
-            step();
+            nextToken();
         }
 
         private int valueCode() {
