@@ -213,50 +213,41 @@ final class PromiseTests {
         Check.due("an ACT all the same", 1, y.count(7));
     }
 
-    /** TAKEN PLACES of a pond behind a number of YEARS. */
-    private static void pondIs(String text, int years, int... taken) {
-        MeshWaters x = Check.of(text);
-        Check.due("years of " + text, taken.length, x.years(years));
-        for (int place : taken) {
-            Check.due("pond " + place + " of " + text, true, x.pond(place));
-        }
-    }
-
     static void p10Rules() {
-        pondIs("places 5;spawns place=3 or place<2;", 1, 0, 1, 3);
-        pondIs("places 5;pond 0;spawns before;", 1, 1);
-        pondIs("places 5;pond 0;spawns after;", 1, 4);
-        pondIs("places 5;pond 4;spawns before;", 1, 0);
-        pondIs("places 5;pond 4;spawns after;", 1, 3);
-        pondIs("places 2;pond 0;spawns before*after;", 1, 1);
-        pondIs("places 6;pond 1 2 5;spawns sums;", 1, 0, 1, 3);
-        pondIs("places 6;pond 0 1 2 3 4 5;spawns sums=3;", 1, 1, 3, 5);
-        pondIs("places 6;pond 0 1 2 3 4 5;spawns sums=2;", 1, 0, 2, 4);
-        pondIs("places 6;pond 1 4;spawns place=all;", 1, 2);
-        pondIs("places 6;spawns place=year;", 1, 0);
-        pondIs("places 6;spawns place=year;", 5, 4);
-        pondIs("places 6;spawns 7-2*3=place;", 1, 1);
-        pondIs("places 6;spawns 7-2-3=place;", 1, 2);
-        pondIs("places 6;spawns 8/2/2=place;", 1, 2);
-        pondIs("places 6;spawns (place-4)/3+1=0;", 1, 0, 1);
-        pondIs("places 6;spawns (0-7)/2=0-3 and place=5;", 1, 5);
-        pondIs("places 6;spawns 7/(place-3)=0-7;", 1, 2);
-        pondIs("places 6;spawns 7/(place-3)=0;", 1, 3);
+        Check.pond("places 5;spawns place=3 or place<2;", 1, 0, 1, 3);
+        Check.pond("places 5;pond 0;spawns before;", 1, 1);
+        Check.pond("places 5;pond 0;spawns after;", 1, 4);
+        Check.pond("places 5;pond 4;spawns before;", 1, 0);
+        Check.pond("places 5;pond 4;spawns after;", 1, 3);
+        Check.pond("places 2;pond 0;spawns before*after;", 1, 1);
+        Check.pond("places 6;pond 1 2 5;spawns sums;", 1, 0, 1, 3);
+        Check.pond("places 6;pond 0 1 2 3 4 5;spawns sums=3;", 1, 1, 3, 5);
+        Check.pond("places 6;pond 0 1 2 3 4 5;spawns sums=2;", 1, 0, 2, 4);
+        Check.pond("places 6;pond 1 4;spawns place=all;", 1, 2);
+        Check.pond("places 6;spawns place=year;", 1, 0);
+        Check.pond("places 6;spawns place=year;", 5, 4);
+        Check.pond("places 6;spawns 7-2*3=place;", 1, 1);
+        Check.pond("places 6;spawns 7-2-3=place;", 1, 2);
+        Check.pond("places 6;spawns 8/2/2=place;", 1, 2);
+        Check.pond("places 6;spawns (place-4)/3+1=0;", 1, 0, 1);
+        Check.pond("places 6;spawns (0-7)/2=0-3 and place=5;", 1, 5);
+        Check.pond("places 6;spawns 7/(place-3)=0-7;", 1, 2);
+        Check.pond("places 6;spawns 7/(place-3)=0;", 1, 3);
         // 999700029999 wraps to 0 - 1027349969.
-        pondIs("places 4;spawns 9999*9999*9999=0-1027*1000*1000-349*1000-969;", 1, 0, 1, 2, 3);
-        pondIs("places 4;spawns 0-2147*1000*1000-483*1000-648=2147*1000*1000+483*1000+647+1;", 1, 0, 1, 2, 3);
-        pondIs("places 4;spawns (0-2147*1000*1000-483*1000-648)/(0-1)<0;", 1, 0, 1, 2, 3);
-        pondIs("places 6;spawns not place<3;", 1, 3, 4, 5);
-        pondIs("places 6;spawns not not place=place*1;", 1, 0, 1, 2, 3, 4, 5);
-        pondIs("places 6;spawns (not not place)=1;", 1, 1, 2, 3, 4, 5);
-        pondIs("places 6;spawns not place+1;", 1);
-        pondIs("places 6;spawns (3 or 0)+(2 and 5)=place;", 1, 2);
-        pondIs("places 6;spawns (5)+(0 or 0)=place;", 1, 5);
-        pondIs("places 6;spawns place=1 or place=2 and place=3;", 1, 1);
-        pondIs("places 6;spawns (place=1 or place=2) and place=2;", 1, 2);
-        pondIs("places 6;spawns (1<2)=1 and (2<1)=0 and (2<2)=0 and place<1;", 1, 0);
-        pondIs("places 6;spawns 0-1;", 1, 0, 1, 2, 3, 4, 5);
-        pondIs("places 60;pond 59;spawns before or place=59;", 1, 0, 59);
+        Check.pond("places 4;spawns 9999*9999*9999=0-1027*1000*1000-349*1000-969;", 1, 0, 1, 2, 3);
+        Check.pond("places 4;spawns 0-2147*1000*1000-483*1000-648=2147*1000*1000+483*1000+647+1;", 1, 0, 1, 2, 3);
+        Check.pond("places 4;spawns (0-2147*1000*1000-483*1000-648)/(0-1)<0;", 1, 0, 1, 2, 3);
+        Check.pond("places 6;spawns not place<3;", 1, 3, 4, 5);
+        Check.pond("places 6;spawns not not place=place*1;", 1, 0, 1, 2, 3, 4, 5);
+        Check.pond("places 6;spawns (not not place)=1;", 1, 1, 2, 3, 4, 5);
+        Check.pond("places 6;spawns not place+1;", 1);
+        Check.pond("places 6;spawns (3 or 0)+(2 and 5)=place;", 1, 2);
+        Check.pond("places 6;spawns (5)+(0 or 0)=place;", 1, 5);
+        Check.pond("places 6;spawns place=1 or place=2 and place=3;", 1, 1);
+        Check.pond("places 6;spawns (place=1 or place=2) and place=2;", 1, 2);
+        Check.pond("places 6;spawns (1<2)=1 and (2<1)=0 and (2<2)=0 and place<1;", 1, 0);
+        Check.pond("places 6;spawns 0-1;", 1, 0, 1, 2, 3, 4, 5);
+        Check.pond("places 60;pond 59;spawns before or place=59;", 1, 0, 59);
     }
 
     static void p11Undo() {

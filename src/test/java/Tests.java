@@ -6,12 +6,15 @@ import java.util.Comparator;
 
 /** Runs every test method of the project: PASS or FAIL of each, and how many at the end. */
 public final class Tests {
-    private static final Class<?>[] GROUPS = {
-        PromiseTests.class, FaultTests.class, WidthTests.class, RuleTests.class, RandomTests.class
+    static final Class<?>[] GROUPS = {
+        PromiseTests.class, FaultTests.class, EdgesOfNets.class, EdgesOfTexts.class, EdgesOfRules.class, EdgesOfSets.class,
+        EdgesOfNumbers.class, EdgesOfPonds.class, EdgesOfMarkets.class, EdgesOfCalls.class, DocTests.class, WidthTests.class,
+        RuleTests.class, RandomTests.class
     };
 
-    /** The class's own file, for what RuleTests reads in it. */
+    /** The class's own file, for what RuleTests reads in it, and the document, for DocTests. */
     static String source = "src/main/java/MeshWaters.java";
+    static String document = "../shared/DOC.md";
 
     private Tests() {
     }

@@ -35,11 +35,15 @@ final class WidthTests {
 
     private static void tiedAlike(String text, long[][] nets) {
         MeshWaters x = Check.of(text);
+        BigInteger[][] tied = new BigInteger[1 << nets.length][];
+        for (int set = 0; set < tied.length; set++) {
+            tied[set] = tied(nets, set);
+        }
         long[][] windows = {{1, MOST}, {1, 1000}, {123456789012L, 987654321098L}, {MOST - 5000, MOST}, {MOST / 2, MOST}};
         for (long[] window : windows) {
             x.waters(window[0], window[1]);
-            for (int set = 0; set < 1 << nets.length; set++) {
-                alike(x, window, set, tied(nets, set));
+            for (int set = 0; set < tied.length; set++) {
+                alike(x, window, set, tied[set]);
             }
         }
     }
@@ -85,27 +89,6 @@ final class WidthTests {
             new long[][] {{10000, 64}, {128, 64}, {960, 64}, {720, 64}, {8, 0}, {625, 64}, {750, 64}, {900, 64}});
         tiedAlike("mesh 12 7;mesh 18 1;mesh 30 13;mesh 8 3;mesh 20 3;mesh 28 3;mesh 42 31;mesh 66 19;",
             new long[][] {{12, 7}, {18, 1}, {30, 13}, {8, 3}, {20, 3}, {28, 3}, {42, 31}, {66, 19}});
-    }
-
-    /** One number that lies in all eight NETS, whose MESHES together are far beyond all numbers. */
-    static void oneNumberInAll() {
-        long number = 999_999_999_989L;
-        int[] meshes = {999, 998, 997, 995, 991, 989, 983, 977};
-        StringBuilder text = new StringBuilder();
-        for (int mesh : meshes) {
-            text.append("mesh ").append(mesh).append(' ').append(number % mesh).append(';');
-        }
-        MeshWaters x = Check.of(text.toString());
-        x.waters(1, MOST);
-        Check.due("all", 1, x.all(255));
-        Check.due("next", number, x.next(255, 1));
-        Check.due("place", number, x.place(255, 0));
-        Check.due("just", 1, x.just(255, 8));
-        Check.due("nets", 255, x.nets(number));
-        x.waters(1, number - 1);
-        Check.due("all", 0, x.all(255));
-        x.waters(number, MOST);
-        Check.due("all", 1, x.all(255));
     }
 
     /** NETS that come round behind 27720 numbers, so wide waters are many such rounds and a piece. */
