@@ -115,7 +115,13 @@ final class EdgesOfCalls {
         for (int set = 0; set < sets; set++) {
             all.append(' ').append(x.all(set)).append(' ').append(x.some(set)).append(' ').append(x.next(set, 77));
         }
-        all.append(" most ").append(x.most((int) x.count(2) / 2)).append(" find ").append(x.find(4, 0)).append(' ').append(x.find(3, 1));
+        for (int k = 0; k <= x.count(2); k++) {
+            all.append(" most ").append(x.most(k));
+        }
+        for (int number = 1; number <= 24; number++) {
+            all.append(' ').append(x.nets(number));
+        }
+        all.append(" find ").append(x.find(4, 0)).append(' ').append(x.find(3, 1));
         all.append(" round ").append(x.round(0)).append(' ').append(x.round(1)).append(" ends ").append(x.ends());
         all.append(" years ").append(x.years(2)).append(' ');
         for (int place = 0; place < x.count(4); place++) {
@@ -128,7 +134,8 @@ final class EdgesOfCalls {
     static void p03AsANewObject() {
         String[] texts = {"mesh 6 1;mesh 4 3;mesh 10 7;places 60;pond 58 59;spawns 1;", "mesh 6 1;mesh 4 2;mesh 2 0;places 5;pond 0;spawns in and 0;",
             "", "salted 2;mesh 4 1;places 9;pond 1 2;spawns sums or after;", "places 9;pond 1 2;spawns before;", "places 9;pond 1 2;",
-            "mesh 4 2;mesh 4 1;salted 4;places 6;pond 1 2;spawns sums;"};
+            "mesh 4 2;mesh 4 1;salted 4;places 6;pond 1 2;spawns sums;",
+            "salted 100;mesh 2 1;twos 0;salted 2;places 7;pond 1;spawns not in;", "salted 99;places 7;pond 1 2;spawns in;"};
         for (String first : texts) {
             for (String then : texts) {
                 MeshWaters x = Check.of(first);
@@ -531,6 +538,19 @@ final class EdgesOfCalls {
         Check.due("SEEN", 0, x.count(10));
         Check.due("the first WISHED one anew", 1, x.wish(2, false));
         Check.due("the first SEEN one anew", 1, x.see(2));
+        MeshWaters gone = Check.of(NETS);
+        for (int i = 1; i <= 12; i++) {
+            gone.wish(30 * i + 1, true);
+            gone.see(7 * i);
+        }
+        gone.forget();
+        gone.wish(9, false);
+        gone.see(10);
+        // What is forgotten counts for nothing, though more was told than now.
+        Check.due("A NEW MESH without the forgotten ones", 2000, gone.mesh(999));
+        Check.due("THE FEWEST NETS without them", 0, gone.fewest());
+        Check.due("FITS without them", 3, gone.fits(0));
+        Check.due("POACHED without them", 0, gone.fits(2));
         MeshWaters y = full();
         y.forget();
         Check.due("ACTS stay", 3, y.count(7));

@@ -495,6 +495,11 @@ final class EdgesOfSets {
         for (int n : new int[] {44, 2, 3, 7, 12, 20, 33}) {
             Check.due("the first NET for " + n, PlainWaters.of(FINDERS).find(n, 1), z.find(n, 1));
         }
+        String others = "mesh 2 0;mesh 5 4;mesh 3 0;mesh 5 2;mesh 5 3;mesh 5 1;mesh 2 1 from 6 to 61;mesh 3 1 from 3 to 32;";
+        MeshWaters w = Check.of(others);
+        for (int n = 2; n <= 31; n++) {
+            Check.due("the first NET of others for " + n, PlainWaters.of(others).find(n, 1), w.find(n, 1));
+        }
     }
 
     @Says("none, if it can't be found (two are alike for all NETS).")
