@@ -122,6 +122,22 @@ final class EdgesOfMarkets {
             + "week 0 from 1 to 1;salted 2;", 1, 77);
     }
 
+    @Says("A couple RESTS if neither gets more by another NET, the other one's as it is: how many; the first, by the first one's NET, then the second's.")
+    static void whereThereAreNetsACoupleRests() {
+        // Who gets more by another NET makes as much more of what the two NETS catch by themselves, added up, less the greater
+        // half of what both catch. That can't go on and on: there is a couple that rests.
+        for (int seed = 0; seed < 400; seed++) {
+            MeshWaters x = new MeshWaters();
+            Check.sea(x, new TextMaker(9000 + seed).text());
+            for (int high = 1; high <= 100_000; high *= 10) {
+                x.waters(1, high);
+                boolean nets = x.count(2) > 0;
+                Check.due("a couple rests, seed " + seed + " to " + high, nets, x.fleets(0) > 0);
+                Check.due("a first couple, seed " + seed + " to " + high, nets, x.fleets(1) != NONE);
+            }
+        }
+    }
+
     /** What is caught on each of the days by seed 1 from LOW on, when so many numbers are drawn of. */
     private static void drawn(MeshWaters x, long low, long many) {
         int even = 0;

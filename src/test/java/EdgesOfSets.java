@@ -7,6 +7,9 @@ final class EdgesOfSets {
     // These tell the numbers 1 to 44 from one another.
     private static final String FINDERS = "mesh 5 1;mesh 5 4 from 4 to 52;mesh 5 0;mesh 3 2;mesh 5 3 from 3 to 55;mesh 2 0 from 12 to 40;"
         + "mesh 2 1 from 15 to 71;mesh 3 1;";
+    // And these 1 to 45: for none further were any found.
+    private static final String WIDEST_FINDERS = "mesh 5 2;mesh 5 4;mesh 3 1;mesh 5 0;mesh 5 1;mesh 2 1 from 15 to 44;mesh 3 0;"
+        + "mesh 2 0 from 16 to 45;";
 
     private EdgesOfSets() {
     }
@@ -463,6 +466,11 @@ final class EdgesOfSets {
         Check.due("2", 1, x.find(2, 0));
         Check.due("44", PlainWaters.of(FINDERS).find(44, 0), x.find(44, 0));
         Check.due("60", NONE, x.find(60, 0));
+        MeshWaters widest = Check.of(WIDEST_FINDERS);
+        Check.due("33 by the widest", 7, widest.find(33, 0));
+        Check.due("45 by the widest", 8, widest.find(45, 0));
+        Check.due("45 by the widest, the first NET", 0, widest.find(45, 1));
+        Check.due("46 by the widest", NONE, widest.find(46, 0));
         Check.illegal("61", () -> x.find(61, 0));
         Check.illegal("-1", () -> x.find(-1, 1));
     }

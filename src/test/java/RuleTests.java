@@ -1,11 +1,13 @@
 import java.io.IOException;
 import java.lang.management.ManagementFactory;
+import java.lang.reflect.Executable;
 import java.lang.reflect.Field;
 import java.lang.reflect.InvocationTargetException;
 import java.lang.reflect.Method;
 import java.lang.reflect.Modifier;
 import java.nio.file.Files;
 import java.nio.file.Path;
+import java.util.ArrayList;
 import java.util.Arrays;
 import java.util.List;
 import java.util.Random;
@@ -15,12 +17,6 @@ import java.util.regex.Pattern;
 
 /** The face, the rules of LANGUAGE.md that a program can look at, and how much room a run takes. */
 final class RuleTests {
-    private static final String FACE = "all(int) count(int) days(int,int,int) divided(int,int) ends() fault() feed(int,int,int,int,int) "
-        + "fewest() figures(long,int,boolean) find(int,int) fits(int) fleets(int) forget() haul() image() just(int,int) lower(int,boolean) "
-        + "mesh(int) most(int) net(int,int) nets(long) next(int,long) parts(int,int,boolean) place(int,long) pond(int) prime(int) "
-        + "primes(int,int) restore() round(int) sea(int) see(long) shoal(int,int) some(int) split(int,int) sums(long,int,int) undo() "
-        + "waters(long,long) wish(long,boolean) years(int)";
-
     private RuleTests() {
     }
 
@@ -42,32 +38,65 @@ final class RuleTests {
         return code().replaceAll("(?s)/\\*.*?\\*/", "").replaceAll("//[^\n]*", "");
     }
 
-    static void theFace() {
-        TreeSet<String> all = new TreeSet<>();
-        for (Method m : MeshWaters.class.getDeclaredMethods()) {
-            hold("public or private: " + m, Modifier.isPublic(m.getModifiers()) || Modifier.isPrivate(m.getModifiers()));
-            if (Modifier.isPublic(m.getModifiers())) {
-                StringBuilder parameters = new StringBuilder();
-                for (Class<?> p : m.getParameterTypes()) {
-                    parameters.append(parameters.length() > 0 ? "," : "").append(p);
-                }
-                all.add(m.getName() + "(" + parameters + ")");
+    /** The face as the document shows it, line by line, without "public" and without the names of parameters. */
+    private static TreeSet<String> faceOfTheDocument() {
+        TreeSet<String> face = new TreeSet<>();
+        Matcher line = Pattern.compile("(?m)^    public ([^;]+);$").matcher(DocTests.document());
+        while (line.find()) {
+            face.add(line.group(1).replaceAll("(int|long|boolean) \\w+([,)])", "$1$2"));
+        }
+        return face;
+    }
+
+    private static TreeSet<String> namesOfTheFace() {
+        TreeSet<String> names = new TreeSet<>();
+        for (String line : faceOfTheDocument()) {
+            names.add(line.replaceAll("\\(.*", "").replaceAll(".* ", ""));
+        }
+        return names;
+    }
+
+    private static String typesOf(Class<?>[] types) {
+        StringBuilder all = new StringBuilder();
+        for (Class<?> type : types) {
+            all.append(all.length() > 0 ? ", " : "").append(type.getSimpleName());
+        }
+        return all.toString();
+    }
+
+    private static String lineOf(Executable call) {
+        String name = call instanceof Method method ? method.getReturnType().getSimpleName() + " " + call.getName() : call.getName();
+        String thrown = typesOf(call.getExceptionTypes());
+        return name + "(" + typesOf(call.getParameterTypes()) + ")" + (thrown.isEmpty() ? "" : " throws " + thrown);
+    }
+
+    /** What each call answers, takes and is declared to throw, the constructor and the constant: as the document shows them, and no more. */
+    static void theFace() throws IllegalAccessException {
+        TreeSet<String> face = new TreeSet<>();
+        List<Executable> calls = new ArrayList<>(Arrays.asList(MeshWaters.class.getDeclaredMethods()));
+        calls.addAll(Arrays.asList(MeshWaters.class.getDeclaredConstructors()));
+        for (Executable call : calls) {
+            hold("public or private: " + call, Modifier.isPublic(call.getModifiers()) || Modifier.isPrivate(call.getModifiers()));
+            if (Modifier.isPublic(call.getModifiers())) {
+                face.add(lineOf(call));
             }
         }
-        hold("the face: " + all, all.equals(new TreeSet<>(Arrays.asList(FACE.split(" ")))));
-        hold("final", Modifier.isFinal(MeshWaters.class.getModifiers()) && Modifier.isPublic(MeshWaters.class.getModifiers()));
         for (Field f : MeshWaters.class.getDeclaredFields()) {
-            hold("private: " + f, Modifier.isPrivate(f.getModifiers()) || f.getName().equals("NONE"));
+            hold("public or private: " + f, Modifier.isPublic(f.getModifiers()) || Modifier.isPrivate(f.getModifiers()));
+            if (Modifier.isPublic(f.getModifiers())) {
+                String how = Modifier.toString(f.getModifiers() & ~Modifier.PUBLIC);
+                face.add(how + " " + f.getType() + " " + f.getName() + " = " + f.getInt(null));
+            }
         }
+        hold("the face: " + face + " is not " + faceOfTheDocument(), face.equals(faceOfTheDocument()));
+        hold("the constructor, the methods and the constant", face.size() == DocTests.PROMISES + 1);
+        hold("final", Modifier.isFinal(MeshWaters.class.getModifiers()) && Modifier.isPublic(MeshWaters.class.getModifiers()));
     }
 
     static void classesInside() {
         Class<?>[] inside = MeshWaters.class.getDeclaredClasses();
         hold("how many classes", inside.length < 12);
-        TreeSet<String> face = new TreeSet<>();
-        for (String method : FACE.split(" ")) {
-            face.add(method.substring(0, method.indexOf('(')));
-        }
+        TreeSet<String> face = namesOfTheFace();
         for (Class<?> c : inside) {
             hold("static and not public: " + c, Modifier.isStatic(c.getModifiers()) && !Modifier.isPublic(c.getModifiers()));
             for (Method m : c.getDeclaredMethods()) {
